@@ -776,7 +776,7 @@ public final class FeastBook {
         }
 
         int sortOf(int year) {
-            int sort = paschOf(year) - moonFirst - 1;
+            int sort = Math.floorMod(paschOf(year) - moonFirst - 1, SORTS_OF_ONE_LENGTH);
             return isLeap(year) ? sort + SORTS_OF_ONE_LENGTH : sort;
         }
 

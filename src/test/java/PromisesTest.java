@@ -611,6 +611,73 @@ public final class PromisesTest {
         due("count below", -1, () -> x.count(LOW));
     }
 
+    private static void undoOverMonths() {
+        FeastBook x = Texts.told("book 3 5 6 7 moon 1 0 0 1;feast 5 on 0 4 move");
+        int[][] days = {{1, 5}, {2, 6}, {0, 0}, {1, 1}, {2, 2}, {0, 3}, {1, 4}, {2, 5}, {0, 2}, {1, 3}};
+        for (int[] d : days) {
+            due("put " + d[0] + " " + d[1], 1, () -> x.put(0, d[0], d[1]));
+        }
+        for (int i = days.length - 2; i >= 1; i--) {
+            int[] d = days[i];
+            int left = i - 1;
+            due("undo to " + d[0] + " " + d[1], left, () -> x.undo());
+            due("MONTH", d[0], () -> x.feast(0, 2));
+            due("day", d[1], () -> x.feast(0, 3));
+        }
+        due("eight alone", STATE, () -> x.undo());
+    }
+
+    private static void fullest() {
+        FeastBook x = Texts.told("book 9 31 31 31 31 31 31 31 31 leap 9 7 moon 19 99 30 30;rest 1;feast 2 on 7 30 move");
+        due("days", 249, () -> x.year(0, 0));
+        due("MONTH of the last day", 7, () -> x.day(0, 248, 0));
+        due("day of it", 31, () -> x.day(0, 248, 1));
+        due("office of the last day", 0, () -> x.office(0, 248, 0));
+        due("the FEAST ahead of it", 0, () -> x.office(0, 247, 2));
+        due("lesson of the last day", -1, () -> x.lesson(0, 247));
+        due("heaviest sixty", 0, () -> x.heaviest(0, 60, false) < 0 ? 1 : 0);
+        due("not one day more", INDEX, () -> x.day(0, 249, 0));
+        due("not in the next YEAR", INDEX, () -> x.day(1, 248, 0));
+        due("KEPT in all YEARS", 1539, () -> x.fates(0, 0, false));
+        // Twelve FEASTS on a SUNDAY that is greater: two are JOINED, the last ones are DROPPED.
+        StringBuilder text = new StringBuilder(PLAIN_YEAR + ";rest 9");
+        for (int i = 0; i < 12; i++) {
+            text.append(";feast 1 at 0 join");
+        }
+        FeastBook y = Texts.told(text.toString());
+        due("JOINED to the SUNDAY", 3, () -> y.joined(0, 5));
+        due("the last one is DROPPED", 3, () -> y.of(11, 0, 2));
+        due("it yielded to no FEAST", -1, () -> y.of(11, 0, 3));
+        due("it yielded to the SUNDAY", 3, () -> y.of(11, 0, 4));
+        due("DROPPED ones", 10, () -> y.tally(0, 3));
+        due("all meet", 2047, () -> y.meets(11));
+        due("one MEETING", 1, () -> y.year(0, 9));
+        due("none is a rival", -1, () -> y.rival(11));
+        due("the last in order", 11, () -> y.order(11));
+    }
+
+    private static void edgesOfYears() {
+        FeastBook x = Texts.told("book 4 5 moon 1 0 0 1;fast 1;fast 2;fast 3");
+        due("WEEKDAY at first", 1, () -> x.year(1, 1));
+        due("FASTS", 4, () -> x.year(1, 7));
+        due("FASTS from the first day on", 3, () -> x.year(1, 8));
+        FeastBook y = Texts.told("book 3 6 moon 1 0 0 1;feast 1 on 0 1 drop;feast 1 on 0 2 drop;feast 1 on 0 4 drop"
+            + ";feast 1 on 0 5 drop");
+        due("nothing FREE", 0, () -> y.year(0, 4));
+        due("no RUN", 0, () -> y.year(0, 5));
+        due("no lull", -1, () -> y.lull(1));
+        due("no LESSONS", 0, () -> y.course(1));
+        due("no FASTS", 0, () -> y.year(0, 8));
+        FeastBook z = Texts.told(PLAIN_YEAR + ";feast 1 at 0 drop;feast 9 at 0 drop;feast 9 at -1 drop;feast 9 at -2 drop"
+            + ";feast 9 at -3 drop;feast 9 at -4 drop;feast 9 at 1 drop;feast 9 at 2 drop;feast 9 at 3 drop;feast 9 at 4 drop");
+        due("better, five ahead", -5, () -> z.better(0, 5, 0));
+        due("KEPT there", 1, () -> z.better(0, 5, 1));
+        due("not four ahead", 0, () -> z.better(0, 4, 0));
+        due("KEPT nowhere", 0, () -> z.better(0, 4, 1));
+        due("put to 99", 1, () -> z.put(0, -1, 99));
+        due("put to -99", 1, () -> z.put(0, -1, -99));
+    }
+
     private static void throwsChangeNothing() {
         FeastBook x = Texts.told(FOUR);
         due("rank", ARGUMENT, () -> x.rank(0, 10));
@@ -646,6 +713,9 @@ public final class PromisesTest {
         promises38To41();
         promises42And43();
         promise44();
+        undoOverMonths();
+        fullest();
+        edgesOfYears();
         throwsChangeNothing();
         CHECK.finish();
     }

@@ -65,6 +65,30 @@ public final class TextTest {
         CHECK.due("the book stays", 3, () -> x.count(0));
     }
 
+    /** What was cut off, or used up by an earlier text, is not in the text any more. */
+    private static void leftovers(String text, int length) {
+        FeastBook x = Texts.told(text);
+        Texts.feed(x, text);
+        x.end(length);
+        CHECK.due("cut at " + length + ": " + text, IllegalArgumentException.class, () -> x.book());
+        CHECK.due("fault cut at " + length + ": " + text, length, () -> x.fault());
+        CHECK.due("nothing is left", IllegalArgumentException.class, () -> x.book());
+        CHECK.due("fault of nothing", 0, () -> x.fault());
+    }
+
+    private static void cutTexts() {
+        leftovers(HEAD + ";rest 0", HEAD.length() + 6);
+        leftovers(HEAD + ";rest 0", HEAD.length() + 5);
+        leftovers(HEAD + ";rest 0", HEAD.length() + 1);
+        leftovers(HEAD + ";closed -0 0", HEAD.length() + 9);
+        leftovers(HEAD + ";closed -0 0", HEAD.length() + 11);
+        leftovers(HEAD + ";feast 1 on 0 0 drop", HEAD.length() + 12);
+        leftovers(HEAD, 22);
+        leftovers(HEAD, 20);
+        leftovers(HEAD, 4);
+        leftovers(HEAD, 0);
+    }
+
     private static void rightTexts() {
         right(HEAD, 0);
         right("   book   3   5   5   moon   1   0   0   1   ", 0);
@@ -142,6 +166,7 @@ public final class TextTest {
     public static void main(String[] args) {
         tape();
         bytes();
+        cutTexts();
         rightTexts();
         wrongHeads();
         wrongLines();

@@ -56,9 +56,10 @@ final class Texts {
         int first = r.nextInt(Math.max(1, Math.min(100, all - week - span + 1)));
         s.append(" moon ").append(1 + r.nextInt(r.nextInt(6) == 0 ? 19 : 4)).append(' ').append(first);
         s.append(' ').append(r.nextInt(31)).append(' ').append(span);
-        int lines = r.nextInt(r.nextInt(6) == 0 ? 26 : 13);
+        boolean full = r.nextInt(8) == 0;
+        int lines = r.nextInt(full ? 26 : 13);
         for (int i = 0; i < lines; i++) {
-            String more = line(r, week, length);
+            String more = full && i < 12 ? ";" + feast(r, length) : line(r, week, length);
             if (s.length() + more.length() < 395) {
                 s.append(more);
             }
