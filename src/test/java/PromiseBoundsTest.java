@@ -93,7 +93,7 @@ public final class PromiseBoundsTest {
             (x, n) -> x.office(9999, n, 0));
     }
 
-    private static void feasts(String text, int last) {
+    private static void oneFeast(String text, int last) {
         bounds("feast", text, 0, last, INDEX, (x, n) -> x.feast(n, 0));
         bounds("of feast", text, 0, last, INDEX, (x, n) -> x.of(n, 0, 0));
         bounds("rank feast", text, 0, last, INDEX, (x, n) -> x.rank(n, 1));
@@ -108,6 +108,9 @@ public final class PromiseBoundsTest {
         bounds("interval feast", text, 0, last, INDEX, (x, n) -> x.interval(n, true));
         bounds("better feast", text, 0, last, INDEX, (x, n) -> x.better(n, 5, 0));
         bounds("rival feast", text, 0, last, INDEX, (x, n) -> x.rival(n));
+    }
+
+    private static void twoFeasts(String text, int last) {
         bounds("beats feast", text + ";feast 9 at 0 drop", 0, last, INDEX, (x, n) -> x.beats(n, n == last + 1 ? 99 : last + 1));
         bounds("beats other", text + ";feast 9 at 0 drop", 0, last, INDEX, (x, n) -> x.beats(n == last + 1 ? 99 : last + 1, n));
         bounds("yields feast", text + ";feast 9 at 0 drop", 0, last, INDEX, (x, n) -> x.yields(n, n == last + 1 ? 99 : last + 1));
@@ -115,12 +118,12 @@ public final class PromiseBoundsTest {
     }
 
     private static void feasts() {
-        feasts(PLAIN_YEAR + ";feast 5 at 0 drop", 0);
-        feasts(PLAIN_YEAR + ";feast 5 at 1 move".repeat(11), 10);
+        oneFeast(PLAIN_YEAR + ";feast 5 at 0 drop", 0);
+        oneFeast(PLAIN_YEAR + ";feast 5 at 1 move".repeat(5), 4);
+        twoFeasts(PLAIN_YEAR + ";feast 5 at 0 drop", 0);
+        twoFeasts(PLAIN_YEAR + ";feast 5 at 1 move".repeat(11), 10);
         String full = PLAIN_YEAR + ";feast 5 at 1 move".repeat(12);
-        bounds("one of twelve", full, 0, 11, INDEX, (x, n) -> x.feast(n, 0));
-        bounds("far, one of twelve", full, 0, 11, INDEX, (x, n) -> x.far(n));
-        bounds("meets, one of twelve", full, 0, 11, INDEX, (x, n) -> x.meets(n));
+        oneFeast(full, 11);
         FeastBook x = Texts.told(PLAIN_YEAR);
         due("no FEASTS", INDEX, () -> x.feast(0, 0));
         due("no FEASTS, of", INDEX, () -> x.of(0, 0, 0));
@@ -438,6 +441,10 @@ public final class PromiseBoundsTest {
             due("in none", 0, () -> x.fates(3, f, false));
             due("no first one", -1, () -> x.fates(3, f, true));
         }
+        FeastBook dropped = Texts.told(PLAIN_YEAR + ";rest 9;feast 1 at 0 drop");
+        due("never KEPT", 0, () -> dropped.fates(0, 0, false));
+        due("never KEPT, no first one", -1, () -> dropped.fates(0, 0, true));
+        due("never ABSENT, no first one", -1, () -> dropped.fates(0, 5, true));
         for (int feast = 0; feast < 4; feast++) {
             int sum = 0;
             for (int fate = 0; fate <= 5; fate++) {
@@ -487,18 +494,21 @@ public final class PromiseBoundsTest {
         due("all others of 11", 2047, () -> x.meets(11));
         FeastBook alone = Texts.told(PLAIN_YEAR + ";feast 1 at 1 move");
         due("not itself", 0, () -> alone.meets(0));
-        FeastBook near = Texts.told(PLAIN_YEAR + ";feast 1 at 1 move;feast 1 at 2 move;feast 1 at 0 move;feast 9 at 99 drop;feast 9 at 99 drop");
+        FeastBook near = Texts.told(PLAIN_YEAR + ";feast 1 at 1 move;feast 1 at 2 move;feast 1 at 0 move"
+            + ";feast 9 at 99 drop;feast 9 at 99 drop");
         due("not a day beside", 0, () -> near.meets(0));
         due("not where both are ABSENT", 0, () -> near.meets(3));
         FeastBook some = Texts.told(TURNING + ";feast 9 at 0 drop;feast 1 on 0 1 move");
         due("in the last of ALL YEARS alone", 1, () -> some.meets(1));
         due("and the other way", 2, () -> some.meets(0));
-        FeastBook moved = Texts.told(PLAIN_YEAR + ";feast 9 on 0 1 drop;feast 1 on 0 1 move;feast 1 on 0 2 drop vigil 1;feast 5 on 0 3 drop");
+        FeastBook moved = Texts.told(PLAIN_YEAR + ";feast 9 on 0 1 drop;feast 1 on 0 1 move"
+            + ";feast 1 on 0 2 drop vigil 1;feast 5 on 0 3 drop");
         due("DAY, not where it is MOVED", 1, () -> moved.meets(1));
     }
 
     private static void beats() {
-        FeastBook x = Texts.told(PLAIN_YEAR + ";feast 5 on 0 1 drop;feast 5 on 0 1 drop;feast 5 at 1 drop;feast 5 at 99 drop;feast 6 on 0 8 drop");
+        FeastBook x = Texts.told(PLAIN_YEAR + ";feast 5 on 0 1 drop;feast 5 on 0 1 drop;feast 5 at 1 drop"
+            + ";feast 5 at 99 drop;feast 6 on 0 8 drop");
         int[] order = {4, 2, 3, 0, 1};
         for (int i = 0; i < order.length; i++) {
             for (int j = 0; j < order.length; j++) {
@@ -540,6 +550,15 @@ public final class PromiseBoundsTest {
         due("above an OCTAVE", 7, () -> safe(";feast 9 on 0 1 drop octave 7;feast 1 on 0 2 drop", 1));
         due("above a VIGIL", 7, () -> safe(";feast 9 on 0 3 drop vigil 7;feast 1 on 0 2 drop", 1));
         due("not its own OCTAVE and VIGIL", 1, () -> safe(";feast 9 on 0 3 drop vigil 7 octave 8", 0));
+        due("on the last day of an OCTAVE", 7, () -> safe(";feast 9 on 0 1 drop octave 7;feast 1 on 0 6 drop", 1));
+        due("behind it", 1, () -> safe(";feast 9 on 0 1 drop octave 7;feast 1 on 0 7 drop", 1));
+        due("ahead of it", 1, () -> safe(";feast 9 on 0 3 drop octave 7;feast 1 on 0 2 drop", 1));
+        due("a VIGIL ahead of a SUNDAY", 7, () -> safe(";feast 9 on 0 6 drop vigil 7;feast 1 on 0 4 drop", 1));
+        due("on a SUNDAY of a SEASON", 6, () -> safe(";rest 3;season 0 0 6;feast 1 at 0 drop", 0));
+        due("on a SUNDAY of no SEASON", 3, () -> safe(";rest 3;season 1 9 6;season -9 -1 6;feast 1 at 0 drop", 0));
+        due("no SUNDAY has a SEASON", 1, () -> safe(";rest 3;season -9 9 6;feast 1 at 1 drop", 0));
+        due("not below the OCTAVE of an ABSENT one", 1, () -> safe(";feast 9 at -6 drop octave 9;feast 1 on 0 2 drop", 1));
+        due("nor below its VIGIL", 1, () -> safe(";feast 9 at 5 drop vigil 9;feast 1 on 0 9 drop", 1));
         due("ABSENT in all YEARS", 1, () -> safe(";feast 9 at 99 drop", 0));
         due("ABSENT in some, blocked in none", 1, () -> Texts.told(TURNING + ";rest 9;feast 4 at -2 drop").safe(0));
         due("by the worst of YEARS", 9, () -> Texts.told(LAST_AND_FIRST).safe(0));
@@ -576,6 +595,10 @@ public final class PromiseBoundsTest {
         due("JOINED is resolved", -1, () -> Texts.told(last.replace("back", "join")).unresolved());
         due("ABSENT is resolved", -1, () -> Texts.told(TURNING + ";feast 5 at 99 move").unresolved());
         due("of several the first", 0, () -> Texts.told(last + ";feast 5 on 0 0 back").unresolved());
+        due("of several the first, the other way", 0, () -> Texts.told(last.replace("feast", "feast 5 on 0 0 back;feast")).unresolved());
+        due("one that is KEPT behind it", 2, () -> Texts.told(last + ";feast 9 on 1 4 back").unresolved());
+        due("one that is KEPT ahead of it", 2, () -> Texts.told(last.replace("feast", "feast 9 on 1 4 back;feast")).unresolved());
+        due("the twelfth", 0, () -> Texts.told(TURNING + ";rest 9" + ";feast 1 at 0 drop".repeat(11) + ";feast 1 at 6 move").unresolved());
     }
 
     private static void paschs() {
@@ -633,7 +656,8 @@ public final class PromiseBoundsTest {
     }
 
     private static void yieldsAndRivals() {
-        FeastBook x = Texts.told(TURNING + ";feast 9 at 0 drop;feast 9 at 1 drop;feast 1 on 0 3 drop;feast 1 at 99 drop;feast 9 at 99 drop");
+        FeastBook x = Texts.told(TURNING + ";feast 9 at 0 drop;feast 9 at 1 drop;feast 1 on 0 3 drop"
+            + ";feast 1 at 99 drop;feast 9 at 99 drop");
         due("one YEAR", 1, () -> x.yields(2, 0));
         due("another YEAR", 1, () -> x.yields(2, 1));
         due("of several RIVALS the least", 0, () -> x.rival(2));
@@ -649,6 +673,14 @@ public final class PromiseBoundsTest {
         due("to a SUNDAY", 0, () -> z.yields(0, 1));
         due("a SUNDAY is no RIVAL", -1, () -> z.rival(0));
         due("MOVED, but on the DAY of one", 1, () -> z.yields(3, 2));
+        FeastBook twelve = Texts.told(TURNING + ";feast 9 at 0 drop;feast 9 at 2 drop vigil 9"
+            + ";feast 1 at 99 drop".repeat(9) + ";feast 1 at 1 drop");
+        due("the twelfth yields to a VIGIL alone", -1, () -> twelve.rival(11));
+        FeastBook again = Texts.told(PLAIN_YEAR + ";feast 1 on 0 9 drop;feast 9 at 0 drop");
+        due("no RIVAL", -1, () -> again.rival(0));
+        Texts.feed(again, PLAIN_YEAR + ";rest 9;feast 1 at 0 drop");
+        due("another text", 1, () -> again.book());
+        due("no RIVAL of the text before", -1, () -> again.rival(0));
         FeastBook more = Texts.told(TURNING + ";feast 9 on 0 3 drop;feast 9 at 0 drop;feast 1 at 0 drop");
         due("RIVAL by most YEARS", 1, () -> more.rival(2));
         due("two or three of them", 3, () -> more.yields(2, 0) + more.yields(2, 1));
@@ -683,6 +715,11 @@ public final class PromiseBoundsTest {
             due("heaviest " + w[0], w[1], () -> x.heaviest(0, w[0], false));
             due("WEIGHT of heaviest " + w[0], w[2], () -> x.heaviest(0, w[0], true));
         }
+        FeastBook first = Texts.told(PLAIN_YEAR + ";feast 5 on 0 0 drop;feast 4 on 0 1 drop;feast 4 on 0 9 drop");
+        due("the first day", 0, () -> first.heaviest(0, 1, false));
+        due("WEIGHT of the first day", 5, () -> first.heaviest(0, 1, true));
+        due("the first two", 0, () -> first.heaviest(0, 2, false));
+        due("WEIGHT of the first two", 9, () -> first.heaviest(0, 2, true));
         FeastBook none = Texts.told(PLAIN_YEAR);
         due("of several the first", 0, () -> none.heaviest(0, 3, false));
         due("no WEIGHT", 0, () -> none.heaviest(0, 3, true));
@@ -771,6 +808,11 @@ public final class PromiseBoundsTest {
         better("from ahead of the YEAR", PLAIN_YEAR + ";feast 1 at -10 drop", 5, -5, 1);
         better("by more YEARS, though farther", TURNING + ";rest 9;feast 1 at 0 drop" + nines(1, -1), 2, 2, 3);
         better("two of three YEARS", LAST_AND_FIRST, 0, 2, 2);
+        better("not to a SUNDAY of a SEASON", PLAIN_YEAR + ";season 0 0 5;feast 4 at -1 drop" + nines(-1, -2), 1, -1, 0);
+        better("to a SUNDAY of no SEASON", PLAIN_YEAR + ";season 1 9 5;feast 4 at -1 drop" + nines(-1, -2), 1, 0, 1);
+        better("not to the last day of an OCTAVE",
+            PLAIN_YEAR + ";feast 4 on 0 7 drop;feast 9 on 0 1 drop octave 5;feast 9 on 0 7 drop", 1, 8, 1);
+        better("not to a VIGIL", PLAIN_YEAR + ";feast 4 on 0 3 drop;feast 9 on 0 3 drop vigil 5", 1, 4, 1);
         FeastBook x = Texts.told(LAST_AND_FIRST);
         x.better(0, 5, 0);
         due("nothing is told by it", 2, () -> x.feast(0, 3));
@@ -829,6 +871,25 @@ public final class PromiseBoundsTest {
             int what = i;
             due("year what " + i, want[i], () -> x.year(0, what));
         }
+        FeastBook meeting = Texts.told(PLAIN_YEAR + ";feast 1 on 0 1 drop;feast 1 at -4 drop;feast 1 on 0 2 drop");
+        due("one MEETING of two", 1, () -> meeting.year(0, 9));
+        FeastBook none = Texts.told(PLAIN_YEAR + ";feast 1 on 0 1 drop;feast 1 on 0 2 drop;feast 1 on 0 3 drop");
+        due("no MEETING", 0, () -> none.year(0, 9));
+        FeastBook two = Texts.told(PLAIN_YEAR + ";feast 1 on 0 1 drop;feast 1 on 0 2 drop;feast 1 on 0 1 drop;feast 1 on 0 2 drop");
+        due("two MEETINGS", 2, () -> two.year(0, 9));
+        FeastBook turning = Texts.told(TURNING);
+        due("FREE, the first and the last day, too", 7, () -> turning.year(1, 4));
+        due("FREE in YEAR 0", 6, () -> turning.year(0, 4));
+        due("FREE in YEAR 2", 7, () -> turning.year(2, 4));
+        FeastBook first = Texts.told("book 5 11 moon 1 0 0 1;feast 1 on 0 6 drop;fast 1;fast 2;fast 3;fast 4;lift 1");
+        due("RUN from the first day on", 4, () -> first.year(1, 5));
+        due("FASTS from the first day on", 4, () -> first.year(1, 8));
+        FeastBook last = Texts.told("book 4 7 moon 1 0 0 1;fast 1;fast 2;fast 3;feast 9 on 0 1 drop");
+        due("FASTS up to the last day, not beyond", 2, () -> last.year(0, 8));
+        due("RUN up to the last day, not beyond", 2, () -> last.year(0, 5));
+        FeastBook up = Texts.told("book 4 8 moon 1 0 0 1;fast 1;fast 2;fast 3;feast 9 on 0 1 drop");
+        due("FASTS with the last day", 3, () -> up.year(0, 8));
+        due("RUN with the last day", 3, () -> up.year(0, 5));
         FeastBook y = Texts.told("book 3 6 moon 1 0 0 1;fast 1;fast 2;fast 0");
         due("FASTS up to the last day", 4, () -> y.year(0, 7));
         due("one behind another", 2, () -> y.year(0, 8));

@@ -17,8 +17,8 @@ public final class RefusedTest {
         Object by(FeastBook x);
     }
 
-    private static final String TURN = "book 3 5 5 leap 4 1 moon 1 0 0 1;rest 3;fast 1;season 0 1 2;closed 4 4;feast 5 on 0 3 move"
-        + ";feast 4 at 0 move;feast 2 on 1 0 join;feast 9 on 1 0 drop vigil 6 octave 3;feast 1 at 2 back";
+    private static final String TURN = "book 3 5 5 leap 4 1 moon 1 0 0 1;rest 3;fast 1;season 0 1 2;closed 4 4"
+        + ";feast 5 on 0 3 move;feast 4 at 0 move;feast 2 on 1 0 join;feast 9 on 1 0 drop vigil 6 octave 3;feast 1 at 2 back";
 
     private static FeastBook changed() {
         FeastBook x = Texts.told(TURN);
@@ -56,59 +56,49 @@ public final class RefusedTest {
         return x;
     }
 
-    private static String tried(Check.Call call) {
-        try {
-            return call.run() + " ";
-        } catch (RuntimeException e) {
-            return e.getClass().getSimpleName() + " ";
-        }
-    }
-
     private static String all(FeastBook x) {
-        return tried(() -> x.fault()) + allButFault(x);
+        return new Seen().ask(() -> x.fault()) + allButFault(x);
     }
 
     /** What is told and what is asked of it, in some 350 calls; the last ones use it up. */
     private static String allButFault(FeastBook x) {
-        StringBuilder s = new StringBuilder();
-        seen(x, s);
+        Seen seen = new Seen();
+        look(x, seen);
         for (int day = 0; day < 10; day++) {
             int d = day;
-            s.append(tried(() -> x.office(1, d, 2))).append(tried(() -> x.base(1, d, 1))).append(tried(() -> x.fast(1, d)));
-            s.append(tried(() -> x.lesson(1, d))).append(tried(() -> x.joined(1, d))).append(tried(() -> x.day(1, d, 3)));
+            seen.ask(() -> x.office(1, d, 2), () -> x.base(1, d, 1), () -> x.fast(1, d), () -> x.lesson(1, d),
+                () -> x.joined(1, d), () -> x.day(1, d, 3));
         }
-        s.append(tried(() -> x.course(0))).append(tried(() -> x.sorts())).append(tried(() -> x.leader()));
+        seen.ask(() -> x.course(0), () -> x.sorts(), () -> x.leader());
         for (int i = 0; i < 9; i++) {
-            s.append("undo ").append(tried(() -> x.undo())).append(tried(() -> x.count(5)));
+            seen.ask(() -> x.undo(), () -> x.count(5));
             for (int feast = 0; feast < 5; feast++) {
                 int f = feast;
-                s.append(tried(() -> 1000 * x.feast(f, 0) + 10000 * x.feast(f, 2) + 100000 * x.feast(f, 4) + x.feast(f, 3)));
+                seen.ask(() -> x.feast(f, 0), () -> x.feast(f, 2), () -> x.feast(f, 3), () -> x.feast(f, 4));
             }
         }
-        s.append("end ").append(tried(() -> x.end(400))).append(tried(() -> x.end(42))).append(tried(() -> x.end(41)));
-        s.append(tried(() -> x.feed(0x30203120, 0x20202020, 0x20202020, 0x20202020, 0x20202020)));
-        s.append(tried(() -> x.book())).append(tried(() -> x.fault())).append(tried(() -> x.count(0)));
-        s.append("back ").append(tried(() -> x.back()));
-        seen(x, s);
-        return s.toString();
+        seen.ask(() -> x.end(400), () -> x.end(42), () -> x.end(41));
+        seen.ask(() -> x.feed(0x30203120, 0x20202020, 0x20202020, 0x20202020, 0x20202020));
+        seen.ask(() -> x.book(), () -> x.fault(), () -> x.count(0), () -> x.back());
+        look(x, seen);
+        return seen.toString();
     }
 
-    private static void seen(FeastBook x, StringBuilder s) {
+    private static void look(FeastBook x, Seen seen) {
         for (int what = 0; what < 11; what++) {
             int w = what;
-            s.append(tried(() -> x.count(w))).append(tried(() -> x.year(1, w)));
+            seen.ask(() -> x.count(w), () -> x.year(1, w));
         }
         for (int feast = 0; feast < 5; feast++) {
             int f = feast;
-            s.append(tried(() -> x.order(f))).append(tried(() -> x.of(f, 0, 1))).append(tried(() -> x.fates(f, 0, false)));
-            s.append(tried(() -> x.safe(f))).append(tried(() -> x.far(f)));
+            seen.ask(() -> x.order(f), () -> x.of(f, 0, 1), () -> x.fates(f, 0, false), () -> x.safe(f), () -> x.far(f));
         }
     }
 
     private static void nothingChanges(String state, Make make, String call, Refused refused) {
         CHECK.due(state + ", behind " + call, all(make.one()), () -> {
             FeastBook x = make.one();
-            tried(() -> refused.by(x));
+            new Seen().ask(() -> refused.by(x));
             return all(x);
         });
     }
@@ -236,7 +226,7 @@ public final class RefusedTest {
             CHECK.due("behind the wrong text '" + text + "'", allButFault(same), () -> {
                 FeastBook x = changed();
                 Texts.feed(x, text);
-                tried(() -> x.book());
+                new Seen().ask(() -> x.book());
                 return allButFault(x);
             });
         }
