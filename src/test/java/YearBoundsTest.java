@@ -361,6 +361,9 @@ public final class YearBoundsTest {
         due("none to a third day", 0, () -> x.joined(0, 4));
         due("JOINED", 4, () -> x.tally(0, 2));
         due("DROPPED", 2, () -> x.tally(0, 3));
+        FeastBook last = Texts.told(PLAIN_YEAR + ";feast 9 on 0 9 drop" + ";feast 1 on 0 2 drop".repeat(9)
+            + ";feast 1 on 0 9 join".repeat(2));
+        due("the eleventh and the twelfth, to the last day", 3072, () -> last.joined(0, 9));
         x.law(2, 3);
         due("one fewer: the third one has room", 10, () -> x.joined(0, 2));
     }
