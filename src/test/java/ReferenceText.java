@@ -25,6 +25,9 @@ final class ReferenceText {
         }
     }
 
+    // No byte of a text is this sign.
+    private static final char END = '\uffff';
+
     private final List<Thing> things = new ArrayList<>();
     private int k;
 
@@ -53,7 +56,7 @@ final class ReferenceText {
             }
             i = j;
         }
-        things.add(new Thing('$', "", s.length()));
+        things.add(new Thing(END, "", s.length()));
     }
 
     private static boolean digit(String s, int i) {
@@ -134,7 +137,7 @@ final class ReferenceText {
             throw new Wrong(at);
         }
         List<String> told = new ArrayList<>();
-        while (things.get(k).sort != '$') {
+        while (things.get(k).sort != END) {
             if (things.get(k).sort != ';') {
                 throw new Wrong(things.get(k).at);
             }
